@@ -9,6 +9,7 @@ public final class TextsTest {
         firstErrors();
         longText();
         seats();
+        seatsOfHighNumbers();
         seatsNotPossible();
         seatsWrong();
         told();
@@ -109,6 +110,27 @@ public final class TextsTest {
         Due.append(x, "-15;-0;1@0b");
         Due.is("seats", x.seats(), 1);
         Due.is("who", x.who(0, 1), 1);
+    }
+
+    private static void seatsOfHighNumbers() {
+        SupperSeats x = new SupperSeats();
+        for (int guest = 0; guest < 16; guest++) {
+            x.guest(guest % 6, 1);
+        }
+        for (int table = 0; table < 4; table++) {
+            x.table(8);
+        }
+        Due.append(x, "12@3h;15@2c;10@0d;1@1a;9@1g");
+        Due.is("seats", x.seats(), 5);
+        int[][] sitting = {{12, 3, 7}, {15, 2, 2}, {10, 0, 3}, {1, 1, 0}, {9, 1, 6}};
+        for (int[] due : sitting) {
+            Due.is("who", x.who(due[1], due[2]), due[0]);
+        }
+        Due.append(x, "-15;-1;-9;-0");
+        Due.is("seats", x.seats(), 3);
+        Due.is("seated(0)", x.seated(0), 12);
+        Due.is("seated(1)", x.seated(1), 10);
+        Due.is("seated(2)", x.seated(2), -1);
     }
 
     private static void seatsNotPossible() {

@@ -15,6 +15,7 @@ public final class WhatWouldBeTest {
         met();
         digestOfNothing();
         digestOfShares();
+        digestOfFeuds();
         digestTellsApart();
         Due.end("WhatWouldBeTest");
     }
@@ -288,6 +289,30 @@ public final class WhatWouldBeTest {
                 Due.isShare("met", x.met(), (double) met / wishes);
                 Due.is("digest with " + met + " of " + wishes, x.digest(), r.digest());
             }
+        }
+    }
+
+    private static void digestOfFeuds() {
+        SupperSeats x = new SupperSeats();
+        Reference r = new Reference();
+        x.table(8);
+        r.table(8);
+        for (int guest = 0; guest < 8; guest++) {
+            x.guest(guest % 4, 1);
+            r.guest(guest % 4, 1);
+            x.sit(guest, 0, guest);
+            r.sit(guest, 0, guest);
+        }
+        Due.is("ifFeud(0, 1)", x.ifFeud(0, 1), 2);
+        Due.is("digest of feuds that would be", x.digest(), r.digest());
+        x.rise(3);
+        r.rise(3);
+        Due.is("ifFeud(2, 3)", x.ifFeud(2, 3), 1);
+        Due.is("digest of feuds that would be", x.digest(), r.digest());
+        int[][] feuds = {{4, 5}, {0, 3}, {1, 0}, {3, 2}};
+        for (int[] feud : feuds) {
+            Due.is("feud", x.feud(feud[0], feud[1]), r.feud(feud[0], feud[1]));
+            Due.is("digest of feuds", x.digest(), r.digest());
         }
     }
 
