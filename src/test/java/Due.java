@@ -1,3 +1,4 @@
+import java.util.function.IntUnaryOperator;
 import java.util.function.LongSupplier;
 
 /** Compares answers with those that are due, and counts the wrong ones. */
@@ -8,8 +9,14 @@ final class Due {
 
     private static int wrong = 0;
     private static int looked = 0;
+    private static String about = "";
 
     private Due() {
+    }
+
+    /** What is told ahead of each wrong answer from here on. */
+    static void about(String sentence) {
+        about = sentence;
     }
 
     static void is(String call, long got, long want) {
@@ -43,10 +50,36 @@ final class Due {
         }
     }
 
+    /** The call must save one state, and undo must bring back all from before it. */
+    static void undoable(SupperSeats x, String call, Runnable made) {
+        Given.roomToSave(x);
+        long before = x.digest();
+        int saved = x.count(13);
+        made.run();
+        is("saved states after " + call, x.count(13), saved + 1);
+        is("undo of " + call, x.undo(), saved);
+        is("digest after undo of " + call, x.digest(), before);
+    }
+
+    /** The call must change nothing. */
+    static void changesNothing(SupperSeats x, String call, Runnable made) {
+        long before = x.digest();
+        made.run();
+        is("digest after " + call, x.digest(), before);
+    }
+
+    /** Each place of a line, and NONE behind it. */
+    static void line(String call, IntUnaryOperator got, int... want) {
+        for (int place = 0; place < want.length; place++) {
+            is(call + "(" + place + ")", got.applyAsInt(place), want[place]);
+        }
+        is(call + "(" + want.length + ")", got.applyAsInt(want.length), SupperSeats.NONE);
+    }
+
     static void report(String text) {
         wrong++;
         if (wrong <= 40) {
-            System.out.println(text);
+            System.out.println(about + text);
         }
     }
 
