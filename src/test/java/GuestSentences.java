@@ -297,6 +297,10 @@ final class GuestSentences {
         x.undo();
         x.table(4);
         Due.is("who at a table that comes in place of one", x.who(1, 2), -1);
+        SupperSeats y = Given.supper("8", "A1 B1", "0@0a 1@0h");
+        y.table(8);
+        Due.is("who on the first seat of the table before", y.who(0, 0), 0);
+        Due.is("who on the last seat of the table before", y.who(0, 7), 1);
     }
 
     private static void tableUndone() {

@@ -80,6 +80,11 @@ final class RulesSentences {
         SupperSeats y = Given.supper("88", "A1 B1", "0@0a 1@1a");
         Due.is("feud of those who do not meet", y.feud(0, 1), 0);
         Due.is("who sits", y.count(3), 2);
+        SupperSeats z = Given.supper("888", "A1 A1 A1 B1 B1 B1", "0@0h 1@1b 2@2a 3@1a 4@1h");
+        Due.is("feud at the table between", z.feud(0, 1), 1);
+        Due.line("seated: those at the tables beside it stay", z::seated, 0, 2, 3, 4);
+        SupperSeats w = Given.supper("888", "A1 B1 A1", "0@0h 1@1a 2@2a");
+        Due.is("feud of those on seats of tables that follow each other", w.feud(0, 1), 0);
     }
 
     private static void fewerStandUp() {

@@ -373,6 +373,9 @@ final class TermsSentences {
             x.set(0, 1);
             Due.is("with more than so many there", x.whyNot(7, 0, 7), 5);
         }
+        SupperSeats y = Given.supper("888", "A1 A1 A1", "0@0h 1@2a");
+        y.set(0, 1);
+        Due.is("with kin on the last seat of the table before, the first seat of the next one", y.whyNot(2, 1, 0), 0);
     }
 
     private static void kinButOneself() {
