@@ -560,7 +560,9 @@ public final class SupperSeats {
         private int timesRisen;
 
         Plan() {
-            Rows.copy(FIRST_VALUES, settings);
+            for (int setting = 0; setting < FIRST_VALUES.length && setting < settings.length; setting++) {
+                settings[setting] = FIRST_VALUES[setting];
+            }
         }
 
         void copyFrom(Plan other) {
